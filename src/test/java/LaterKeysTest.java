@@ -95,16 +95,15 @@ public final class LaterKeysTest {
         x.must(3, 1, true);
         CHECK.due("15: run", x.run(200000), 1);
         for (int doors = 0; doors < 4; doors++) {
-            String least = leastByHand(x, 4, doors);
-            MasterKeys y = x;
-            int number = y.add(doors);
+            String least = leastByHand(x, doors);
+            int number = x.add(doors);
             if (least.isEmpty()) {
                 CHECK.due("15: add(" + doors + ")", number, MasterKeys.NONE);
             } else {
-                CHECK.due("15: cuts of add(" + doors + ")", Check.cuts(y, number, 3), least);
-                CHECK.due("15: door 0 of add(" + doors + ")", y.fits(number, 0), (doors & 1) != 0);
-                CHECK.due("15: door 1 of add(" + doors + ")", y.fits(number, 1), (doors & 2) != 0);
-                CHECK.due("15: wrong behind add(" + doors + ")", y.wrong(), 0);
+                CHECK.due("15: cuts of add(" + doors + ")", Check.cuts(x, number, 3), least);
+                CHECK.due("15: door 0 of add(" + doors + ")", x.fits(number, 0), (doors & 1) != 0);
+                CHECK.due("15: door 1 of add(" + doors + ")", x.fits(number, 1), (doors & 2) != 0);
+                CHECK.due("15: wrong behind add(" + doors + ")", x.wrong(), 0);
             }
         }
         CHECK.due("15: must was told for a later key",
@@ -112,7 +111,7 @@ public final class LaterKeysTest {
     }
 
     /** The least row of three pins and depths for these of two doors, by holds() and cut() alone. */
-    private static String leastByHand(MasterKeys x, int keys, int doors) {
+    private static String leastByHand(MasterKeys x, int doors) {
         for (int row = 0; row < 27; row++) {
             int[] cuts = {row / 9, row / 3 % 3, row % 3};
             String text = "" + cuts[0] + cuts[1] + cuts[2];
@@ -158,7 +157,14 @@ public final class LaterKeysTest {
         CHECK.illegalArgument("15: add(64) with six doors", () -> six.add(64));
         CHECK.due("15: add(63) with six doors", six.add(63), MasterKeys.NONE);
         CHECK.due("15: add(32) with six doors", six.add(32), MasterKeys.NONE);
+        CHECK.due("15: add(0) with six doors", six.add(0), 1);
         CHECK.due("15: the plan stays found", six.wrong(), 0);
+        MasterKeys widest = Check.plan(6, 8, 1, 1);
+        widest.must(0, 0, true);
+        widest.run(6);
+        CHECK.due("15: add(1) with eight depths", widest.add(1), MasterKeys.NONE);
+        CHECK.due("15: add(0) with eight depths", widest.add(0), 1);
+        CHECK.due("15: its cuts", Check.cuts(widest, 1, 6), "000001");
     }
 
     private static void addUsesUpTheRows() {

@@ -11,6 +11,8 @@ public final class SearchTest {
         unlawfulPinsAreLeftAtOnce();
         laterKeysMakeEarlierOnesGoBack();
         earlierKeysMayNotFitWiderDoors();
+        laterKeysMayNotFitWideDoors();
+        topBindsEachPin();
         searchWithoutPlanLosesTheOldOne();
         triesAreOfTheLatestSearch();
         CHECK.end();
@@ -106,7 +108,7 @@ public final class SearchTest {
     }
 
     private static void earlierKeysMayNotFitWiderDoors() {
-        // door 0 holds 00 and 11, hence 01 too: that is key 0's, which must not open it
+        // with 01 and 10 the door would hold 00 too: that is key 0's, which must not open it
         MasterKeys x = Check.plan(2, 2, 3, 1);
         x.must(1, 0, true);
         x.must(2, 0, true);
@@ -114,8 +116,34 @@ public final class SearchTest {
         CHECK.due("8: cuts 0", Check.cuts(x, 0, 2), "00");
         CHECK.due("8: cuts 1", Check.cuts(x, 1, 2), "01");
         CHECK.due("8: cuts 2", Check.cuts(x, 2, 2), "11");
-        // 00: 2; 01: 3; then 0, 00, 01, 1, 10 (the door holds 00 with it), 11
+        // 00: 2; 01: 3; then 0, 00, 01, 1, 10, 11
         CHECK.due("9: tries", x.tries(), 2 + 3 + 6);
+    }
+
+    private static void laterKeysMayNotFitWideDoors() {
+        // 00, 01, 10 open the door, hence 11 fits it too: key 3, which must not open it, goes on
+        MasterKeys x = Check.plan(2, 3, 4, 1);
+        x.must(0, 0, true);
+        x.must(1, 0, true);
+        x.must(2, 0, true);
+        x.top(2);
+        x.bar(0, 2, true);
+        CHECK.due("8: run", x.run(200000), 1);
+        CHECK.due("8: cuts 2", Check.cuts(x, 2, 2), "10");
+        CHECK.due("8: cuts 3", Check.cuts(x, 3, 2), "12");
+    }
+
+    private static void topBindsEachPin() {
+        for (int pins = 2; pins <= 6; pins++) {
+            // two keys of one door differ at some pin, whichever it is
+            MasterKeys x = Check.plan(pins, 2, 2, 1);
+            x.must(0, 0, true);
+            x.must(1, 0, true);
+            x.top(1);
+            CHECK.due("8: two keys of a door with TOP 1", x.run(200000), 0);
+            x.top(2);
+            CHECK.due("8: two keys of a door with TOP 2", x.run(200000), 1);
+        }
     }
 
     private static void searchWithoutPlanLosesTheOldOne() {
