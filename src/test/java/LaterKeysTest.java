@@ -47,17 +47,22 @@ public final class LaterKeysTest {
         MasterKeys x = oneDoorOfTwoKeys();
         // 27 rows: 00x with x of 0, 1 fit the door, and are the keys' anyway
         CHECK.due("14: left", x.left(), 25);
-        MasterKeys y = Check.plan(2, 3, 3, 1);
-        y.must(0, 0, true);
-        y.must(1, 0, true);
-        y.must(2, 0, true);
-        y.top(2);
-        y.run(1000);
-        // 00, 01, 10 open the door, hence 11 fits it too: five rows are left
+        MasterKeys y = doorOfThreeKeys();
         CHECK.due("14: left without a row that fits and is no key's", y.left(), 5);
         y.door();
         y.run(1000);
         CHECK.due("14: a door of no key takes no row", y.left(), 5);
+    }
+
+    /** Two pins, three depths: keys 00, 01 and 10 must open the one door, hence 11 fits it too. */
+    private static MasterKeys doorOfThreeKeys() {
+        MasterKeys x = Check.plan(2, 3, 3, 1);
+        x.must(0, 0, true);
+        x.must(1, 0, true);
+        x.must(2, 0, true);
+        x.top(2);
+        x.run(1000);
+        return x;
     }
 
     /** Three pins, three depths: both keys must open the one door; they are 000 and 001. */
@@ -176,12 +181,7 @@ public final class LaterKeysTest {
         CHECK.due("15: third", x.add(0), 3);
         CHECK.due("14: none is left", x.left(), 0);
         CHECK.due("15: fourth", x.add(0), MasterKeys.NONE);
-        MasterKeys y = Check.plan(2, 3, 3, 1);
-        y.must(0, 0, true);
-        y.must(1, 0, true);
-        y.must(2, 0, true);
-        y.top(2);
-        y.run(1000);
+        MasterKeys y = doorOfThreeKeys();
         CHECK.due("15: the row that fits and is no key's", y.add(1), 3);
         CHECK.due("15: its cuts", Check.cuts(y, 3, 2), "11");
         CHECK.due("15: there is no other", y.add(1), MasterKeys.NONE);
@@ -189,12 +189,7 @@ public final class LaterKeysTest {
     }
 
     private static void addedKeysAreSearchedFor() {
-        MasterKeys y = Check.plan(2, 3, 3, 1);
-        y.must(0, 0, true);
-        y.must(1, 0, true);
-        y.must(2, 0, true);
-        y.top(2);
-        y.run(1000);
+        MasterKeys y = doorOfThreeKeys();
         y.add(1);
         y.add(0);
         CHECK.due("15: run with later keys", y.run(1000), 1);
