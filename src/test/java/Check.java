@@ -5,12 +5,23 @@ final class Check {
         void make();
     }
 
+    /** A call with an answer, which may throw. */
+    interface Question {
+        int ask();
+    }
+
     private int wrong = 0;
+    private String sentence = "";
+
+    /** The answers from here on are due by these words of the document. */
+    void sentence(String words) {
+        sentence = "\"" + words + "\": ";
+    }
 
     void due(String call, Object got, Object want) {
         if (!got.equals(want)) {
             wrong++;
-            System.out.println(call + " answered " + got + ", due is " + want);
+            System.out.println(sentence + call + " answered " + got + ", due is " + want);
         }
     }
 
@@ -22,11 +33,24 @@ final class Check {
         due(call, thrownBy(made), "IllegalStateException");
     }
 
+    void noException(String call, Call made) {
+        due(call, thrownBy(made), "nothing");
+    }
+
     /** The simple name of what a call throws, or "nothing". */
     static String thrownBy(Call made) {
         try {
             made.make();
             return "nothing";
+        } catch (RuntimeException e) {
+            return e.getClass().getSimpleName();
+        }
+    }
+
+    /** A call's answer, or the simple name of what it throws. */
+    static String answerOf(Question question) {
+        try {
+            return Integer.toString(question.ask());
         } catch (RuntimeException e) {
             return e.getClass().getSimpleName();
         }
