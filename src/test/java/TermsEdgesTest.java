@@ -29,6 +29,7 @@ public final class TermsEdgesTest {
         thePlanStaysBehindWhatIsAsked();
         doorOfNoKeyHoldsNothing();
         doorOfNoKeyAnyMoreHoldsNothing();
+        fitsAtEachPin();
         neighbouringPinsAlone();
         theLesserPinsDepthIsTheFirst();
         barBindsAtEachPairOfPins();
@@ -349,6 +350,48 @@ public final class TermsEdgesTest {
         for (int key = 0; key < keys; key++) {
             CHECK.due("fits(" + key + ", " + door + ")", x.fits(key, door), false);
         }
+    }
+
+    private static void fitsAtEachPin() {
+        CHECK.sentence("A key FITS a door if the door holds its cut at each pin");
+        // the doors hold one depth at the first pin, at the last, at the middle one, and both elsewhere
+        MasterKeys first = keysOfADoor(new boolean[] {true, true, true}, false);
+        laterCuts(first, 0, 4, "000 001 010", "011 100 101 110 111");
+        MasterKeys last = keysOfADoor(new boolean[] {true, true, true}, true);
+        laterCuts(last, 2, 1, "000 100 110", "111");
+        MasterKeys middle = keysOfADoor(new boolean[] {true, true, false, true}, false);
+        laterCuts(middle, 1, 3, "000 001 010 100", "101 011 110 111");
+    }
+
+    /** Three pins, two depths; if 0 1 is barred, rows never rise. */
+    private static MasterKeys keysOfADoor(boolean[] opens, boolean barred) {
+        MasterKeys x = Check.plan(3, 2, opens.length, 1);
+        for (int key = 0; key < opens.length; key++) {
+            x.must(key, 0, opens[key]);
+        }
+        x.bar(0, 1, barred);
+        CHECK.due("run", x.run(200000), 1);
+        return x;
+    }
+
+    private static void laterCuts(MasterKeys x, int narrow, int left, String found, String later) {
+        for (int pin = 0; pin < 3; pin++) {
+            CHECK.due("holds(0, " + pin + ", 0)", x.holds(0, pin, 0), true);
+            CHECK.due("holds(0, " + pin + ", 1)", x.holds(0, pin, 1), pin != narrow);
+        }
+        String[] want = (found + " " + later).split(" ");
+        int keys = found.split(" ").length;
+        CHECK.due("left()", x.left(), left);
+        int fitting = x.add(1) == MasterKeys.NONE ? 0 : 1;
+        CHECK.due("rows that fit and are no key's", fitting, later.split(" ").length - left);
+        for (int i = 0; i < left; i++) {
+            CHECK.due("add(0)", x.add(0), keys + fitting + i);
+        }
+        for (int key = 0; key < want.length; key++) {
+            CHECK.due("cuts of key " + key, Check.cuts(x, key, 3), want[key]);
+        }
+        CHECK.due("left() at last", x.left(), 0);
+        CHECK.due("wrong() at last", x.wrong(), 0);
     }
 
     private static void neighbouringPinsAlone() {
